@@ -6,7 +6,6 @@ import java.lang.reflect.Modifier;
 import java.nio.file.Files;
 import java.nio.file.Path;
 import java.util.Arrays;
-import java.util.List;
 import java.util.Set;
 import java.util.TreeSet;
 import java.util.regex.Matcher;
@@ -15,20 +14,21 @@ import java.util.regex.Pattern;
 /** The class's face as the document has it, and those rules of LANGUAGE.md that can be read off the class. */
 public final class FaceTest {
     private static final String SOURCE = "src/main/java/VoiceHouse.java";
-    private static final List<String> FACE = List.of(
-            "int record(int,int)", "boolean tone(int,int,int)", "boolean know(int,int)", "boolean set(int)",
-            "boolean limit(int)", "int shift(int,int)", "boolean hidden(int,int)", "int score(int,int)",
-            "int band(int,int)", "int block(int,int)", "int odds(int,int)", "int segment(int)", "int clear()",
-            "int voice(int)", "int voices()", "int spare()", "int lined(int,int)", "int rank(int,int)",
-            "int test(int,int)", "int right(int)", "int told(int,int)", "int count(int)");
+    private static final String DOCUMENT = "../shared/DOC.md";
+    private static final int CALLS = 22;
     private static final int MOST_LINES = 60;
     private static final int MOST_FIELDS = 20;
     private static final int MOST_CLASSES = 12;
 
+    private static final Set<String> FACE = new TreeSet<>();
+    private static final Set<String> CONSTANTS = new TreeSet<>();
+
     private static int wrong = 0;
 
-    public static void main(String[] args) throws IOException {
+    public static void main(String[] args) throws IOException, IllegalAccessException {
+        readTheDocument();
         faceIsTheDocuments();
+        constantsAreTheDocuments();
         restIsPrivate();
         classesInside();
         sourceKeepsToTheLanguage();
@@ -37,6 +37,34 @@ public final class FaceTest {
         if (wrong != 0) {
             System.exit(1);
         }
+    }
+
+    /** The face stands in the document's one block of Java; names of parameters are no part of it. */
+    private static void readTheDocument() throws IOException {
+        String text = Files.readString(Path.of(DOCUMENT));
+        Matcher block = Pattern.compile("(?s)```java\n(.*?)```").matcher(text);
+        String face = block.find() ? block.group(1) : "";
+        ask(face.contains("public final class VoiceHouse {") && face.contains("public VoiceHouse();"), "no face found");
+        Matcher calls = Pattern.compile("public (\\w+ \\w+)\\((.*?)\\);").matcher(face);
+        while (calls.find()) {
+            FACE.add(calls.group(1) + "(" + calls.group(2).replaceAll(" \\w+(, )?", ",").replaceAll(",$", "") + ")");
+        }
+        Matcher constants = Pattern.compile("public static final (\\w+ \\w+ = .*?);").matcher(face);
+        while (constants.find()) {
+            CONSTANTS.add(constants.group(1));
+        }
+        ask(FACE.size() == CALLS && CONSTANTS.size() == 1, "read in the document: " + FACE + CONSTANTS);
+    }
+
+    private static void constantsAreTheDocuments() throws IllegalAccessException {
+        Set<String> found = new TreeSet<>();
+        for (Field field : VoiceHouse.class.getDeclaredFields()) {
+            if (Modifier.isPublic(field.getModifiers()) && Modifier.isStatic(field.getModifiers())) {
+                ask(Modifier.isFinal(field.getModifiers()), "not final: " + field);
+                found.add(field.getType() + " " + field.getName() + " = " + field.get(null));
+            }
+        }
+        ask(found.equals(CONSTANTS), "the constants are " + found);
     }
 
     private static void faceIsTheDocuments() {
@@ -50,7 +78,7 @@ public final class FaceTest {
                                 .replace(" ", ""));
             }
         }
-        ask(found.equals(new TreeSet<>(FACE)), "the face is " + found);
+        ask(found.equals(FACE), "the face is " + found);
         Constructor<?>[] made = VoiceHouse.class.getDeclaredConstructors();
         ask(made.length == 1 && made[0].getParameterCount() == 0 && Modifier.isPublic(made[0].getModifiers()),
                 "the constructor");
